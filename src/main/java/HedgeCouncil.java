@@ -112,7 +112,7 @@ public final class HedgeCouncil {
 
     private static final long MOST_VALUE = 1000000000L;
     // Far beyond MOST_VALUE, so that no SUM that stands can be mistaken for it.
-    private static final long BROKEN = Long.MIN_VALUE;
+    private static final long BROKEN = -1000000000000000L;
 
     private final Chamber chamber = new Chamber();
     private final Chamber[] images = new Chamber[IMAGE_ROOM];
@@ -230,7 +230,9 @@ public final class HedgeCouncil {
             tapeSize = 0;
             return refuse(NO_ROOM);
         }
-        if (!readTape(false)) {
+        latestFault = reader.read(tape, tapeSize, false);
+        tapeSize = 0;
+        if (latestFault != NONE) {
             return refuse(BAD_TEXT);
         }
         return accept(chamber.addLaw(reader.text.trimmed()));
@@ -238,7 +240,9 @@ public final class HedgeCouncil {
 
     public int orders() {
         latestStop = NONE;
-        if (!readTape(true)) {
+        latestFault = reader.read(tape, tapeSize, true);
+        tapeSize = 0;
+        if (latestFault != NONE) {
             return refuse(BAD_TEXT);
         }
         // On paper first: so nothing has to be taken back if one of them can't be.
@@ -547,12 +551,6 @@ public final class HedgeCouncil {
         return true;
     }
 
-    private boolean readTape(boolean isOrders) {
-        latestFault = reader.read(tape, tapeSize, isOrders);
-        tapeSize = 0;
-        return latestFault == NONE;
-    }
-
     /** All that a MINUTE changes: what can be undone, and what is tried on paper. */
     private static final class Moment {
         int open = 0;
@@ -768,6 +766,7 @@ public final class HedgeCouncil {
     private static final class Text {
         int clauses = 0;
         int steps = 0;
+        boolean asksTime = false;
         final int[] kind;
         final int[] first;
         final int[] second;
@@ -791,6 +790,7 @@ public final class HedgeCouncil {
             Text copy = new Text(many, used);
             copy.clauses = many;
             copy.steps = used;
+            copy.asksTime = asksTime;
             System.arraycopy(kind, 0, copy.kind, 0, many);
             System.arraycopy(first, 0, copy.first, 0, many);
             System.arraycopy(second, 0, copy.second, 0, many);
@@ -803,6 +803,7 @@ public final class HedgeCouncil {
         void clear() {
             clauses = 0;
             steps = 0;
+            asksTime = false;
         }
 
         /** A CLAUSE without SUMS, TEST, TIMES as yet; false if there is no room. */
@@ -943,7 +944,9 @@ public final class HedgeCouncil {
         }
 
         private void nextToken() {
-            at = Math.min(at + 1, tokenMany);
+            if (at < tokenMany) {
+                at++;
+            }
             token = tokens[at];
         }
 
@@ -1108,6 +1111,7 @@ public final class HedgeCouncil {
                 return readOne(firstOf(word));
             }
             text.addStep(STEP_WORD, word);
+            text.asksTime |= word == STILL || word == MINUTE;
             return true;
         }
 
@@ -1254,9 +1258,10 @@ public final class HedgeCouncil {
             }
         }
 
-        /** Those held stay SHUT, whatever they NEED. */
-        private void passMinute(Chamber chamber, Moment moment, Text law, int heldSet) {
+        /** Those held stay SHUT, whatever they NEED. False if no MINUTE behind it can change anything but time. */
+        private boolean passMinute(Chamber chamber, Moment moment, Text law, int heldSet) {
             int next = 0;
+            boolean isMoving = law != null && law.asksTime;
             for (int h = 0; h < chamber.many && h < HEDGEHOG_ROOM; h++) {
                 hear(chamber, moment, h);
                 int want = moment.want[h];
@@ -1265,13 +1270,17 @@ public final class HedgeCouncil {
                     : reckoner.values[NEAR] >= told(law, NEEDS, want);
                 next |= isOpenNext ? 1 << h : 0;
                 comesTo[h] = told(law, WANTS, want);
+                isMoving |= comesTo[h] != want;
             }
+            next &= ~heldSet;
+            isMoving |= next != moment.open;
             for (int h = 0; h < chamber.many && h < HEDGEHOG_ROOM; h++) {
                 moment.want[h] = comesTo[h];
                 moment.still[h] = Math.min(moment.still[h] + 1, MOST_STILL);
             }
-            moment.open = next & ~heldSet;
+            moment.open = next;
             moment.minute++;
+            return isMoving;
         }
 
         /** What the words of LAWS stand for, asked of one: told() goes by it. */
@@ -1312,8 +1321,9 @@ public final class HedgeCouncil {
         int openBehind(Chamber chamber, int open, int n) {
             begin(chamber, open);
             Text law = chamber.lawInForce();
-            for (int i = 0; i < n; i++) {
-                passMinute(chamber, paper, law, 0);
+            boolean isMoving = true;
+            for (int i = 0; i < n && isMoving; i++) {
+                isMoving = passMinute(chamber, paper, law, 0);
             }
             return paper.open;
         }
@@ -1328,11 +1338,12 @@ public final class HedgeCouncil {
         int firstMinute(Chamber chamber, int open, int heldSet, int wanted) {
             begin(chamber, open & ~heldSet);
             Text law = chamber.lawInForce();
-            for (int n = 0; n <= FARTHEST; n++) {
+            boolean isMoving = true;
+            for (int n = 0; n <= FARTHEST && isMoving; n++) {
                 if ((paper.open & wanted) == wanted) {
                     return n;
                 }
-                passMinute(chamber, paper, law, heldSet);
+                isMoving = passMinute(chamber, paper, law, heldSet);
             }
             return NONE;
         }

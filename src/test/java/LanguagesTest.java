@@ -40,6 +40,13 @@ public final class LanguagesTest {
         law("needs1if2<3and4>5ornot6=7;shuts", 17);
         law("needs[1]", -1);
         law("needsif", 0);
+        law("needsz 1", 0);
+        law("aneeds 1", 0);
+        law("needs1and", 6);
+        law("touch 1", 0);
+        law("(".repeat(400), 0);
+        law("shuts" + ";".repeat(395), 6);
+        law("shuts" + " ".repeat(395), -1);
         law("Needs 1", 0);
         law("needs\t1", 5);
         law("needs\0", 5);
@@ -91,6 +98,7 @@ public final class LanguagesTest {
     private static void orderFaults() {
         due.promise(11, "orders: faults");
         orders("needs 1", 0);
+        orders("if", 0);
         orders("touch", 5);
         orders("touch to", 6);
         orders("tempt 1 to", 10);
@@ -230,6 +238,8 @@ public final class LanguagesTest {
         test(no + " and (" + yes + " or " + yes + ")", false);
         test("not " + yes + " or " + yes, true);
         test("not (" + yes + " or " + yes + ")", false);
+        test("not " + yes + " and " + yes, false);
+        test("not " + no + " and " + yes, true);
         test("not " + no + " and " + no, false);
         test("not not " + yes, true);
         test(no + " or " + no + " or " + yes, true);

@@ -118,6 +118,9 @@ public final class PromisesTest {
         due.is("too few", x.of(0, 8), 0);
         x.coax(2);
         due.is("enough", x.of(0, 8), 1);
+        HedgeCouncil l = Due.line(3);
+        l.coax(0);
+        due.is("behind one minute, not two", l.of(2, 8), 0);
         Due.law(x, "needs 3;needs 1 if near = 2;needs 7 if near = 9;wants 20;wants 0 - 5 if who = 1;wants 1/0;shuts if who=2");
         x.force(0);
         due.is("the last that holds", x.of(0, 5), 1);
@@ -208,6 +211,9 @@ public final class PromisesTest {
         due.is("no room for two", x.burrs(), 2);
         x.pass();
         due.is("burrs alone", Due.tape(x, "\1").row(), 0);
+        due.is("three bytes are one", Due.tape(new HedgeCouncil(), "\1\2\0").row(), 1);
+        due.is("two bytes are none", Due.tape(new HedgeCouncil(), "\1\2").row(), 0);
+        due.is("a full tape", Due.tape(new HedgeCouncil(), "\1\2\0".repeat(133) + "\1").row(), 8);
         due.is("burrs()", x.burrs(), 1);
         due.is("nothing can be undone behind it, either", x.count(4), 0);
     }
@@ -253,6 +259,19 @@ public final class PromisesTest {
         due.is("latest: how many are open", Due.orders(x, "pass;touch latest;touch 0"), 3);
         due.is("all", Due.orders(x, "coax 0;touch all - 1 - 1;touch 0"), 3);
         due.is("want, still, is", Due.orders(x, "touch want 2;touch still 2;touch is 2;touch is 0"), 4);
+        HedgeCouncil w = Due.council(2, 1);
+        w.tempt(1, 5);
+        w.pass();
+        w.coax(1);
+        w.pass();
+        w.touch(0);
+        w.pass();
+        due.is("want of each", Due.orders(w, "pass if want 0 = 1 and want 1 = 5 and want 2 = 0 - 1"), 1);
+        due.is("still of each", Due.orders(w, "pass if still 0 = 2 and still 1 = 4 and still 7 = 0 - 1"), 1);
+        due.is("is of each", Due.orders(w, "pass if is 0 = 0 and is 1 = 1 and is 2 = 0 - 1"), 1);
+        due.is("minute, done, latest, all", Due.orders(w, "pass if minute = 6 and done = 0 and latest = 0 - 1 and all = 1;"
+            + "pass if minute = 7 and done = 1 and latest = 1"), 2);
+        due.is("a tape of orders at its longest", Due.orders(w, "pass;" + " ".repeat(391) + "pass"), 2);
         due.is("-1 without such one", Due.orders(x, "touch want 7 + 1;touch still 3 + 1;touch is 5 + 1"), 3);
         due.is("a broken test: not run", Due.orders(x, "touch 0 if 1/0=1;touch 0 if 1=1 or 1/0=1;touch 0 if 1=2 and 1/0=1"), 1);
         due.is("a broken sum", Due.orders(x, "touch 0;touch 1/0"), -3);
@@ -458,6 +477,12 @@ public final class PromisesTest {
         due.is("later(51)", y.later(51), 0);
         due.is("minute goes on beyond 999", y.later(52), 1);
         due.is("opens(0)", y.opens(0), 52);
+        HedgeCouncil z = Due.council(1, 3);
+        Due.law(z, "wants want - 1");
+        z.force(0);
+        due.is("wants alone change", z.opens(0), 4);
+        due.is("wants alone change", z.later(4), 1);
+        due.is("wants alone change", z.later(3), 0);
     }
 
     private static void opensTogetherAgain() {
@@ -483,6 +508,13 @@ public final class PromisesTest {
         due.promise(23, "again");
         due.is("not in 60", x.again(), -1);
         due.is("at once", y.again(), 1);
+        HedgeCouncil v = Due.council(1, 9);
+        Due.law(v, "shuts if still = 59;needs 0 if still = 0");
+        Due.law(v, "shuts if still = 60;needs 0 if still = 0");
+        v.force(0);
+        due.is("just in 60", v.again(), 60);
+        v.force(1);
+        due.is("not in 60", v.again(), -1);
         HedgeCouncil z = Due.council(2, 0);
         Due.law(z, "shuts if minute % 3 = 0;needs 9 if minute % 3 > 0");
         z.force(0);
@@ -514,6 +546,9 @@ public final class PromisesTest {
         Due.law(y, "shuts");
         y.force(0);
         due.is("together at minute 0", y.seeds(1), 7);
+        HedgeCouncil z = Due.council(8, 9);
+        due.is("all of them", z.seeds(0), 8);
+        due.is("all of them", z.seeds(1), 255);
     }
 
     private static void seedsFor() {
@@ -578,6 +613,13 @@ public final class PromisesTest {
         y.coax(0);
         due.is("the lowest", y.held(3, 1), 1);
         due.is("nobody else is held", y.held(1, 1), 1);
+        HedgeCouncil z = Due.council(8, 1);
+        for (int i = 1; i < 8; i++) {
+            z.watch(0, i, 1);
+            z.coax(i);
+        }
+        due.is("all others", z.held(0, 0), 7);
+        due.is("all others", z.held(0, 1), 254);
     }
 
     private static void chain() {
@@ -603,6 +645,12 @@ public final class PromisesTest {
         due.is("there is none", x.chain(5, 0, -1), -1);
         due.is("there is none", x.chain(5, 0, 0), -1);
         due.is("from 6", x.chain(6, 0, -1), -1);
+        due.is("to 6", x.chain(0, 6, -1), -1);
+        HedgeCouncil v = Due.council(3, 1);
+        v.watch(0, 2, 1);
+        v.watch(1, 0, 1);
+        due.is("by way of 0", v.chain(2, 1, 0), 0);
+        due.is("by way of 0", v.chain(2, 1, 1), 1);
         due.is("to -1", x.chain(0, -1, -1), -1);
         due.is("to itself that isn't there", x.chain(6, 6, -1), -1);
         HedgeCouncil y = Due.line(8);
@@ -668,6 +716,15 @@ public final class PromisesTest {
         due.is("from now on", x.canBe(), 8);
         x.seen(60, 0);
         due.is("none", x.canBe(), 0);
+        HedgeCouncil y = Due.line(4);
+        y.coax(1);
+        y.seen(0, 1);
+        due.is("open now", y.canBe(), 2);
+        y.forget();
+        y.seen(0, 0);
+        due.is("shut now", y.canBe(), 13);
+        y.seen(60, 1);
+        due.is("and open at 60", y.canBe(), 12);
         due.promise(34, "look");
         due.is("it can be none", x.look(0), -1);
         due.is("it can be none", x.look(1), -1);
@@ -680,6 +737,15 @@ public final class PromisesTest {
         due.is("look(2)", x.look(2), -1);
         due.is("look(-1)", x.look(-1), -1);
         due.is("one alone", Due.council(1, 1).look(1), 1);
+        HedgeCouncil z = Due.council(2, 9);
+        Due.law(z, "needs 0 if still = 59 and who = 0");
+        Due.law(z, "needs 0 if still = 60 and who = 0");
+        z.force(0);
+        due.is("just at 60", z.look(0), 60);
+        due.is("just at 60", z.look(1), 1);
+        z.force(1);
+        due.is("not in 60: the least", z.look(0), 0);
+        due.is("not in 60", z.look(1), 2);
         due.is("no hedgehogs", new HedgeCouncil().look(1), -1);
     }
 
@@ -690,6 +756,7 @@ public final class PromisesTest {
         due.is("few(2, 3)", x.few(2, 3), 972000000000L);
         due.is("few(1, 99), cut each time", x.few(1, 99), cutTimes(9, 99));
         due.is("few(20, 0)", x.few(20, 0), 1000000000000L);
+        due.isSo("few(20, 99)", x.few(20, 99) > 990000000000L && x.few(20, 99) < 1000000000000L);
         x.terms(1, 10);
         due.is("all start", x.few(3, 3), 0);
         due.is("all start", x.few(4, 3), 1000000000000L);
@@ -772,6 +839,9 @@ public final class PromisesTest {
         y.terms(0, 999);
         due.is("at minute 999 it ends", y.councils(0, 60), 0);
         due.is("none", y.drawn(0, 2), 0);
+        HedgeCouncil z = Due.council(1, 9);
+        due.is("one alone", z.councils(0, 1), 1);
+        due.is("one alone", z.drawn(0, 2), 1);
     }
 
     private static void imageAndBack() {
@@ -829,6 +899,44 @@ public final class PromisesTest {
         due.is("images stay", x.back(1), 0);
         due.is("images stay", x.later(0), 1);
         due.is("images stay", x.count(11), 0);
+        HedgeCouncil z = new HedgeCouncil();
+        z.hedgehog(1, 7);
+        z.terms(0, 11);
+        z.terms(1, 2);
+        z.terms(2, 3);
+        z.terms(3, 4);
+        z.seen(0, 0);
+        z.image(0);
+        z.image(1);
+        z.terms(0, 21);
+        z.terms(1, 5);
+        z.terms(2, 6);
+        z.terms(3, 7);
+        z.forget();
+        z.seen(9, 1);
+        z.back(0);
+        due.is("shy", z.of(0, 1), 7);
+        due.is("minute", z.count(12), 11);
+        due.is("starts", z.few(1, 1), 800000000000L);
+        due.is("hush", z.count(14), 3);
+        due.is("mood", z.count(15), 4);
+        due.is("what was seen", z.canBe(), 1);
+        HedgeCouncil u = new HedgeCouncil();
+        u.image(0);
+        u.hedgehog(3, 7);
+        Due.law(u, "needs shy");
+        u.force(0);
+        u.seen(0, 1);
+        u.image(1);
+        due.is("back to nothing", u.back(0), 0);
+        due.is("nothing", u.count(0) + u.count(2) + u.count(3) + u.count(11), -1);
+        u.hedgehog(2, 1);
+        due.is("a new one is shut", u.of(0, 3) + u.of(0, 2), 0);
+        Due.law(u, "needs 4");
+        due.is("and on again", u.back(1), 0);
+        due.is("shy", u.of(0, 1), 7);
+        due.is("the first law, too", u.of(0, 5), 7);
+        due.is("what was seen", u.canBe(), 0);
         HedgeCouncil y = new HedgeCouncil();
         due.is("it was not kept", y.back(1), -2);
     }
