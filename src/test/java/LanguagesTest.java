@@ -54,6 +54,7 @@ public final class LanguagesTest {
         law("needs 1 2", 8);
         law("needs 1000", -1);
         law("needs 1001", 6);
+        law("needs 10000", 6);
         law("needs 0000000000001000", -1);
         law("needs 99999999999999999999", 6);
         law("needs 4294967297", 6);
@@ -158,6 +159,18 @@ public final class LanguagesTest {
         due.is("nots in a row", Due.orders(x, "pass if " + "not ".repeat(90) + "1=2"), 0);
         String deep = "1+1*[".repeat(8) + "1+1*1" + "]".repeat(8);
         due.is("as much as can wait", Due.orders(x, "pass if 10=" + deep), 1);
+        due.is("many ors", Due.orders(x, "pass if 1=2" + " or 1=2".repeat(23) + " or 1=1"), 1);
+        due.is("many ands", Due.orders(x, "pass if 1=1" + " and 1=1".repeat(23) + " and 1=2"), 0);
+        Due.law(x, "needs " + "[".repeat(8) + "what");
+        Due.law(x, "shuts if 1" + "+1".repeat(40) + "what");
+        due.is("nothing is left of a text that had a fault", Due.law(x, "needs " + "[".repeat(8) + "1" + "]".repeat(8)), 0);
+        for (int i = 0; i < 12; i++) due.is("one text after another", Due.orders(x, "touch 1" + "+1".repeat(48) + "-49"), 1);
+        x.force(0);
+        due.is("the law is as it was", x.of(0, 5), 1);
+        Due.tape(x, "needs 15");
+        x.end(7);
+        x.force(x.law());
+        due.is("nothing is left of the tape", x.of(0, 5), 1);
     }
 
     /** A sum by way of what a hedgehog is tempted to. */

@@ -937,6 +937,17 @@ public final class PromisesTest {
         due.is("shy", u.of(0, 1), 7);
         due.is("the first law, too", u.of(0, 5), 7);
         due.is("what was seen", u.canBe(), 0);
+        u.forget();
+        u.coax(0);
+        Due.law(u, "shuts if still = 4");
+        u.force(1);
+        u.seen(3, 1);
+        u.image(0);
+        u.forget();
+        u.seen(5, 1);
+        due.is("it is shut at 5", u.canBe(), 0);
+        u.back(0);
+        due.is("it is open at 3", u.canBe(), 1);
         HedgeCouncil y = new HedgeCouncil();
         due.is("it was not kept", y.back(1), -2);
     }
