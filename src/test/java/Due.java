@@ -8,6 +8,11 @@ final class Due {
         promise = "promise " + number + " (" + name + ")";
     }
 
+    /** The document's own words, so that a failing test says which sentence does not hold. */
+    void sentence(String where, String words) {
+        promise = where + " \"" + words + "\"";
+    }
+
     void is(String call, long got, long due) {
         asked++;
         if (got != due) {
@@ -36,6 +41,21 @@ final class Due {
             x.feed(v[0], v[1], v[2], v[3], v[4]);
         }
         x.end(text.length());
+        return x;
+    }
+
+    /** Bytes by their numbers: a row. */
+    static int row(HedgeCouncil x, int... bytes) {
+        StringBuilder text = new StringBuilder();
+        for (int b : bytes) text.append((char) b);
+        return tape(x, text.toString()).row();
+    }
+
+    /** A law is made and is in force. */
+    static HedgeCouncil under(HedgeCouncil x, String text) {
+        int number = law(x, text);
+        if (number < 0) throw new IllegalArgumentException("no law: " + text);
+        x.force(number);
         return x;
     }
 
