@@ -1040,6 +1040,18 @@ public final class EdgesOfPromisesTest {
         due.is("no room for a law", Due.law(x, "shuts"), -5);
         due.is("no room for what is seen", x.seen(0, 0), -5);
         due.is("what was seen", x.canBe(), 3);
+        allOthersBetween();
+        HedgeCouncil open = Due.council(1, 9);
+        for (int i = 0; i < 6; i++) open.seen(i, 0);
+        open.image(0);
+        open.forget();
+        open.coax(0);
+        for (int i = 0; i < 6; i++) open.seen(i, 1);
+        open.image(1);
+        open.back(0);
+        due.is("six times it was seen shut, and is", open.canBe(), 1);
+        open.back(1);
+        due.is("six times it was seen open, and is", open.canBe(), 1);
         due.sentence("40", "all but the TAPE, FAULT, BURRS, where ORDERS stopped, .. the latest COUNCILS");
         HedgeCouncil y = Due.council(2, 9);
         y.image(0);
@@ -1059,6 +1071,54 @@ public final class EdgesOfPromisesTest {
         Due.law(y, "shuts what");
         y.back(0);
         due.is("fault", y.fault(), 6);
+    }
+
+    /** All rooms are full in both images, and nothing of one is left in the other. */
+    private static void allOthersBetween() {
+        HedgeCouncil x = new HedgeCouncil();
+        x.image(1);
+        fill(x, 0);
+        x.image(0);
+        x.back(1);
+        fill(x, 1);
+        x.image(1);
+        for (int which : new int[] {0, 1, 0}) {
+            x.back(which);
+            for (int h = 0; h < 8; h++) {
+                due.is("wants", x.of(h, 0), h + 1 + which);
+                due.is("shy", x.of(h, 1), h + which);
+                due.is("watches", x.of(h, 2), 1 << (h + 1 + which) % 8);
+                due.is("open", x.of(h, 3), isOpenIn(h, which) ? 1 : 0);
+                due.is("still", x.of(h, 4), h % 3 == which ? 0 : 1);
+            }
+            for (int what = 1; what < 4; what++) due.is("terms", x.count(12 + what), what + 1 + which);
+            due.is("each that was seen", x.canBe(), which == 0 ? 192 : 3);
+            for (int i = 1; i < 6; i++) {
+                x.force(i);
+                due.is("each law", x.of(0, 5), i + which);
+            }
+        }
+    }
+
+    private static boolean isOpenIn(int h, int which) {
+        return h == 0 || h % 2 != which;
+    }
+
+    /** By the law in force h is shut at the minute behind h, so that each of the six that were seen leaves another one out. */
+    private static void fill(HedgeCouncil x, int which) {
+        for (int h = 0; h < 8; h++) x.hedgehog(h + 1 + which, h + which);
+        for (int h = 0; h < 8; h++) x.watch(h, (h + 1 + which) % 8, 1);
+        Due.law(x, "shuts if minute = who;needs 0");
+        for (int i = 1; i < 6; i++) Due.law(x, "needs " + (i + which));
+        for (int i = 0; i < 6; i++) x.seen(i + 1 + 2 * which, 1);
+        x.pass();
+        for (int h = 0; h < 8; h++) {
+            if (h % 3 == which) x.touch(h);
+            if (isOpenIn(h, which)) x.coax(h);
+        }
+        x.force(0);
+        x.terms(0, 0);
+        for (int what = 1; what < 4; what++) x.terms(what, what + 1 + which);
     }
 
     private static void count() {

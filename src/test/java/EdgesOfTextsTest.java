@@ -19,6 +19,7 @@ public final class EdgesOfTextsTest {
         parts();
         brackets();
         faults();
+        firstOfTwoFaults();
         faultAtTheEnd();
         beyond();
         divided();
@@ -379,6 +380,15 @@ public final class EdgesOfTextsTest {
         law("needs what 1", 6);
         law("shuts if 1=1 if 1=1", 13);
         law("needs 1 if 1=1 1=1 ;", 15);
+        law("needs [+1]", 7);
+        law("needs [*2]*2", 7);
+        law("needs [1+]+1", 9);
+        law("needs [[-1]]-1", 8);
+        law("shuts if (and 1=1)", 10);
+        law("shuts if (or 1=1) or 1=1", 10);
+        law("shuts if (1 and 1=1) and 1=1", 12);
+        law("shuts if not (<1) <1", 14);
+        law("shuts if 1+[what] what", 12);
         law("if 1=1", 0);
         law("1", 0);
         law("shuts 1", 6);
@@ -398,6 +408,42 @@ public final class EdgesOfTextsTest {
         due.is("a fault is told", x.fault(), 6);
         Due.law(x, "shuts");
         due.is("NONE without", x.fault(), -1);
+    }
+
+    /** Each has another fault further on, where what follows would go on if the first were passed over. */
+    private static void firstOfTwoFaults() {
+        due.sentence("II", "FAULT: the first TOKEN that can't go on there");
+        law("needs ;shuts what", 6);
+        law("shuts if ;shuts what", 9);
+        law("wants if 1=1 what", 6);
+        law("needs + 1 what", 6);
+        law("needs * 1 what", 6);
+        law("needs 1 + * 1 what", 10);
+        law("needs 1 * + 1 what", 10);
+        law("needs [;shuts what", 7);
+        law("shuts if 1 < and 1=1 what", 13);
+        law("shuts if < 1 what", 9);
+        law("shuts if and 1=1 what", 9);
+        law("shuts if not or 1=1 what", 13);
+        law("shuts if (1=1 ; shuts what", 14);
+        law("needs 1001 + 1 what", 6);
+        law("needs 1" + "+1".repeat(50) + " what", 106);
+        law("needs " + "[".repeat(9) + "1 what", 14);
+        law("shuts" + ";shuts".repeat(12) + " what", 72);
+        orders("touch if 1=1 what", 6);
+        orders("touch times 2 what", 6);
+        orders("tempt if 1=1 what", 6);
+        orders("tempt to 1 what", 6);
+        orders("tempt 0 to if 1=1 what", 11);
+        orders("tempt 0 to times 2 what", 11);
+        orders("tempt 0 if 1=1 what", 8);
+        orders("tempt 0 times 2 what", 8);
+        orders("pass times if 1=1 what", 11);
+        orders("pass times 21 if 1=1 what", 11);
+        orders("pass times ;pass what", 11);
+        orders("touch want + 1 what", 11);
+        orders("touch want 8 + 1 what", 11);
+        orders("touch ;pass what", 6);
     }
 
     private static void faultAtTheEnd() {

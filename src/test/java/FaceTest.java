@@ -30,6 +30,7 @@ public final class FaceTest {
         classesInside();
         words();
         lengths();
+        room();
         due.close();
     }
 
@@ -126,5 +127,39 @@ public final class FaceTest {
             if (line.matches("( {4}| {8})\\}")) due.isSo("a method of " + (at - start) + " lines ends at " + at, start == 0 || at - start <= 60);
             if (line.matches("( {4}| {8})\\}")) start = 0;
         }
+    }
+
+    private interface Calls {
+        long on(HedgeCouncil x, int call);
+    }
+
+    /** The bytes that 500 calls on one object make: the constructor and what can be kept are most of it. */
+    private static void makes(String name, Calls calls, long most) {
+        com.sun.management.ThreadMXBean threads = (com.sun.management.ThreadMXBean) java.lang.management.ManagementFactory.getThreadMXBean();
+        long id = Thread.currentThread().getId();
+        long made = Long.MAX_VALUE;
+        // The machine makes something of its own now and then, so the least of some rounds counts.
+        for (int round = 0; round < 5; round++) {
+            long before = threads.getThreadAllocatedBytes(id);
+            HedgeCouncil x = Due.council(8, 9);
+            for (int i = 0; i < 500; i++) calls.on(x, i);
+            made = Math.min(made, threads.getThreadAllocatedBytes(id) - before);
+        }
+        due.isSo(name + " make " + made + " bytes", made <= most);
+    }
+
+    private static void room() {
+        due.promise(1, "rule 12: what calls make");
+        makes("passes", (x, i) -> x.pass(), 40_000);
+        makes("touches and undos", (x, i) -> i % 3 == 2 ? x.undo() : x.touch(i % 8), 40_000);
+        makes("images and backs", (x, i) -> i % 2 == 0 ? x.image(i / 2 % 2) : x.back(i / 2 % 2), 40_000);
+        makes("seeds", (x, i) -> i % 50 == 0 ? x.seeds(0) : x.seedsFor(i % 8, 1), 40_000);
+        makes("councils", (x, i) -> x.councils(i, 60), 40_000);
+        makes("chains", (x, i) -> x.chain(i % 8, i / 8 % 8, -1) + x.knots() + x.heads(1), 40_000);
+        makes("chances", (x, i) -> x.few(20, 99), 40_000);
+        int[] law = {0x73687574, 0x73202020, 0x20202020, 0x20202020, 0x20202020};
+        makes("laws", (x, i) -> i % 16 == 15 ? x.back(0) : i == 0 ? x.image(0)
+            : i % 2 == 0 ? x.feed(law[0], law[1], law[2], law[3], law[4]) : x.law(), 200_000);
+        makes("orders", (x, i) -> i % 2 == 0 ? x.feed(0x70617373, 0x20202020, 0x20202020, 0x20202020, 0x20202020) : x.orders(), 40_000);
     }
 }
