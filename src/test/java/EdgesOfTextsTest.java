@@ -242,6 +242,17 @@ public final class EdgesOfTextsTest {
         so("0-1<0", 1);
         so("not 1=2", 1);
         so("not 1=1", 0);
+        for (String sign : new String[] {"<", ">", "="}) {
+            for (int a = 1; a <= 3; a++) {
+                boolean is = sign.equals("<") ? a < 2 : sign.equals(">") ? a > 2 : a == 2;
+                String test = a + sign + "2";
+                so(test, is ? 1 : 0);
+                so("not " + test, is ? 0 : 1);
+                so("not not " + test, is ? 1 : 0);
+                so("not (" + test + " and 1=1)", is ? 0 : 1);
+                so("not (" + test + " or 1=2)", is ? 0 : 1);
+            }
+        }
         so("not not 1=1", 1);
         so("not 1=1 or 1=1", 1);
         so("not (1=1 or 1=1)", 0);
